@@ -307,6 +307,7 @@ public final class PromisesTest {
     private static void promise14() {
         DistantVoice x = Check.made("round 9;ear a row 0 sharp 3;ear b row 0 sharp 0;hears night%4=sharp;");
         row("14", new int[] {x.often(0, 0), x.often(0, 3), x.often(0, 4), x.often(0, 60), x.often(1, 1)}, 0, 0, 1, 15, 1);
+        row("14 fewer again", new int[] {x.often(0, 3), x.often(1, 4), x.often(1, 0)}, 0, 1, 0);
         due("14 61", x.often(0, 61), -1);
         due("14 below 0", x.often(0, -1), -1);
         due("14 none such", x.often(2, 1), -1);
@@ -327,6 +328,7 @@ public final class PromisesTest {
         due("15 none such", x.quiet(2, 1), -1);
         due("15 none such", x.quiet(-1, 1), -1);
         due("15 the hush stays", x.has(7), 9);
+        due("15 9 alone", Check.made("round 9;ear a row 0 sharp 0;hears hush>8;").quiet(0, 1), 9);
         due("15", Check.on(x, Check.image(998, 0, 0, 0, 0, 0, 0)), true);
         due("15 beyond NIGHT 999", x.quiet(0, 2), -1);
         due("15 none", x.quiet(0, 1), -1);
@@ -351,6 +353,8 @@ public final class PromisesTest {
         row("16 without EARS", new int[] {z.seats(5, -1), z.seats(5, 0)}, 0, -1);
         due("16", Check.on(z, Check.image(998, 0, 0, 0, 0)), true);
         row("16 NIGHT 999", new int[] {z.seats(1, -1), z.seats(2, -1)}, 0, -1);
+        DistantVoice v = Check.made("round 50;ear a row 0 sharp 1;ear b row 0 sharp 1;hears row>8;");
+        row("16 rows 0 .. 9", new int[] {v.seats(3, -1), v.seats(3, 0), v.seats(3, 1)}, 3, 0, 9);
         DistantVoice w = Check.made("round 9;ear a row 0 sharp 0;ear b row 0 sharp 1;ear c row 0 sharp 2;ear d row 0 sharp 3;"
                 + "ear e row 0 sharp 4;ear f row 0 sharp 5;ear g row 0 sharp 6;hears row=9-sharp;");
         row("16 7 EARS", new int[] {w.seats(2, -1), w.seats(2, 0), w.seats(2, 3), w.seats(2, 6)}, 14, 9, 6, 3);
@@ -361,6 +365,10 @@ public final class PromisesTest {
                 + "hears night<4 and [night=sharp or night+1=sharp or row=1 and night=0];");
         // NIGHT 0: a d, 1: a b, 2: b c d, 3: c d
         row("17", new int[] {x.watch(1), x.watch(2), x.watch(3), x.watch(4), x.watch(40)}, 1, 1, 3, 5, 5);
+        row("17 fewer again", new int[] {x.watch(3), x.watch(1)}, 3, 1);
+        DistantVoice y = Check.made("round 50;ear a row 0 sharp 0;ear b row 0 sharp 1;ear c row 9 sharp 9;"
+                + "hears night=sharp or row=9;");
+        due("17 the fewest", y.watch(2), 4);
         due("17 41", x.watch(41), -1);
         due("17 0", x.watch(0), -1);
         due("17 without a house", new DistantVoice().watch(1), -1);
@@ -383,6 +391,8 @@ public final class PromisesTest {
             y.silence(3)}, 0, 1, 1, 2, 3, 3, 7, -1);
         due("18", Check.on(y, Check.image(5, 0, 999, 0, 0, 2, 3, 1)), true);
         due("18 round 999 times", y.silence(40), -1);
+        due("18", Check.on(y, Check.image(5, 0, 0, 0, 0, 1, 1, 4)), true);
+        row("18 the fewest", new int[] {y.silence(9), y.silence(8), y.silence(5)}, 1, 4, 5);
         due("18", Check.on(y, Check.image(5, 0, 998, 0, 0, 2, 3, 1)), true);
         due("18 round 998 times", y.silence(40), 0);
         due("18", Check.on(y, Check.image(990, 0, 0, 0, 0, 2, 3, 1)), true);
@@ -437,6 +447,12 @@ public final class PromisesTest {
         row("21 and far 4 and more two NIGHTS later", new int[] {x.miles(-1), x.miles(0), x.miles(1)}, 2, 10, 11);
         due("21 refused", Check.mark(x, 0, 0, 9), -1);
         due("21 the latest that was not refused", x.miles(-1), 2);
+        int[] rows = new int[48];
+        for (int i = 0; i < 16; i++) {
+            rows[3 * i] = i;
+        }
+        due("21 16 rows", Check.mark(x, rows), 16);
+        due("21 16 rows", x.miles(-1), 0);
         Check.mark(x, 0, 0, 1, 0, 0, 0);
         due("21 none", x.miles(-1), 0);
         due("21 none", x.miles(0), -1);
@@ -470,6 +486,8 @@ public final class PromisesTest {
         DistantVoice y = Check.made("round 16;ear a row 0 sharp 2;ear b row 0 sharp 5;goes 1;hears night=998 and far<sharp;");
         due("22", Check.on(y, Check.image(997, 3, 0, 2, 0, 1, 1)), true);
         row("22 to NIGHT 999", new int[] {y.tells(0), y.tells(1), y.tells(2)}, 1, 1, 9);
+        due("22", Check.on(y, Check.image(998, 3, 0, 2, 0, 1, 1)), true);
+        row("22 NIGHT 998", new int[] {y.tells(0), y.tells(1), y.tells(2)}, 0, 1, 9);
         due("22", Check.on(y, Check.image(999, 3, 0, 2, 0, 1, 1)), true);
         due("22 when no NIGHT comes", y.tells(0), -1);
         DistantVoice z = Check.made("round 16;ear a row 0 sharp 2;ear b row 0 sharp 2;goes 1;hears night=30 and far<5;");
@@ -535,6 +553,17 @@ public final class PromisesTest {
         y.seed(HIGH);
         due("24 no coughs", y.chance(1), 0);
         due("24 a DRAW all the same", y.has(12), next(HIGH));
+        int begin = 0;
+        while (next(begin) / 64 % 100 != 37) {
+            begin++;
+        }
+        DistantVoice z = Check.made("round 9;cough 37;");
+        z.seed(begin);
+        due("24 not below cough", z.chance(1), 0);
+        DistantVoice w = Check.made("round 9;cough 38;");
+        w.seed(begin);
+        due("24 below cough", w.chance(1), 1);
+        due("24 two DRAWS", w.has(12), next(next(begin)));
         due("24 always", Check.made("round 9;cough 100;").chance(7), 7);
     }
 
@@ -677,6 +706,18 @@ public final class PromisesTest {
         row("31 the most", written(x), 3, 231, 0, 19, 3, 231, 20, 9, 9, 0, 9, 0, Check.image(999, 19, 999, 20, 9, 9, 0, 9, 0)[12]);
     }
 
+    private static void promise31Full() {
+        StringBuilder b = new StringBuilder("round 200;voice 199;");
+        for (int i = 0; i < 7; i++) {
+            b.append("ear ").append((char) ('a' + i)).append(" row ").append(9 - i).append(" sharp 1;");
+        }
+        for (int i = 0; i < 6; i++) {
+            b.append("place ").append((char) ('p' + i)).append(" at ").append(20 * i + 1).append(" talk ").append(i).append(";");
+        }
+        row("31 the longest", written(Check.made(b.toString())),
+                Check.image(0, 199, 0, 0, 0, 9, 8, 7, 6, 5, 4, 3, 0, 1, 2, 3, 4, 5));
+    }
+
     private static void promise32() {
         DistantVoice x = new DistantVoice();
         due("32 ahead of any", x.octet(0), -1);
@@ -783,6 +824,7 @@ public final class PromisesTest {
         promise29();
         promise30();
         promise31();
+        promise31Full();
         promise32();
         promise33();
         promise34();
