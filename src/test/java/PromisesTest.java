@@ -492,6 +492,8 @@ public final class PromisesTest {
         due("22 when no NIGHT comes", y.tells(0), -1);
         DistantVoice z = Check.made("round 16;ear a row 0 sharp 2;ear b row 0 sharp 2;goes 1;hears night=30 and far<5;");
         row("22 to NIGHT 30", new int[] {z.tells(0), z.tells(1), z.tells(2)}, 30, 0, 9);
+        DistantVoice v = Check.made("round 16;ear a row 0 sharp 2;ear b row 1 sharp 2;goes 1;hears night=3 and far=0 and row=1;");
+        row("22 one fewer", new int[] {v.tells(0), v.tells(1), v.tells(2)}, 3, 1, 15);
         DistantVoice w = Check.made("round 16;ear a row 0 sharp 2;goes 1;hears night=31 and far<5;");
         row("22 and no further", new int[] {w.tells(0), w.tells(1), w.tells(2)}, 0, 0, 16);
     }
