@@ -738,10 +738,11 @@ public final class DistantVoice {
                 to++;
             }
             int most = word ? NAME_LETTERS : NUMBER_DIGITS;
-            if (to - from > most) {
-                addPiece(BAD, from, from + most);
-            } else if (joined && endsInWordOrNumber()) {
+            // The blank that is missing lies ahead of a 7th letter or a 5th digit, so it is looked for first.
+            if (joined && endsInWordOrNumber()) {
                 addPiece(BAD, from, from);
+            } else if (to - from > most) {
+                addPiece(BAD, from, from + most);
             } else if (word) {
                 addWord(from, to);
             } else {

@@ -87,6 +87,30 @@ public final class FaultsTest {
         goes(0, "0000;");
     }
 
+    /** The blank that is missing comes ahead of the 7th letter, the 5th digit; with a blank these are told. */
+    private static void joinedAndTooLong() {
+        fault(1, "round 5;ear a row 1^rounroun");
+        fault(1, "round 5;ear a row 1 rounro^un");
+        fault(1, "round 5;ear a row 1\nrounro^un");
+        fault(1, "round^12345;");
+        fault(1, "round 1234^5;");
+        fault(1, "round 5;ear a^12345");
+        fault(1, "round 5;ear a 1234^5");
+        fault(1, "round 5;ear abcdef^12345");
+        fault(1, "round 5;ear abcdef^g12345");
+        fault(1, "round 1234^5abcdefg");
+        fault(1, "round 5^abcdefg12345");
+        fault(4, "round ^4abcdefg");
+        goes(1, "1^abcdefg;");
+        goes(1, "night^12345;");
+        goes(1, "1+mile^12345;");
+        goes(1, "(1)abcdef^g;");
+        goes(1, "(1)1234^5;");
+        hears(1, "1<2^abcdefgh all;");
+        hears(1, "not^12345<1;");
+        hears(1, "not 1234^5<1;");
+    }
+
     private static void names() {
         fault(1, "round 9;ear^");
         fault(1, "round 9;ear ^1");
@@ -219,6 +243,7 @@ public final class FaultsTest {
         fault(6, sixty + "^round 9;");
         fault(6, sixty + "^goes 1;");
         fault(6, sixty + "^nothing");
+        fault(6, sixty + "^1abcdefgh");
         fault(6, sixty + "^;");
         fault(1, "round 9;" + "cough 1;".repeat(58) + "^round 9;");
     }
@@ -226,6 +251,7 @@ public final class FaultsTest {
     public static void main(String[] args) {
         statements();
         wordsAndNumbers();
+        joinedAndTooLong();
         names();
         numbers();
         sums();

@@ -102,10 +102,10 @@ final class Model {
             }
             int most = letter ? 6 : digit ? 4 : 1;
             int blame = -1;
-            if (b.length() > most) {
-                blame = i + most;
-            } else if ((letter || digit) && wordBefore) {
+            if ((letter || digit) && wordBefore) {
                 blame = i;
+            } else if (b.length() > most) {
+                blame = i + most;
             }
             list.add(new Piece(i, b.toString(), blame));
             wordBefore = letter || digit;
