@@ -4,8 +4,20 @@ import java.nio.charset.StandardCharsets;
 final class Check {
     private static int wrong = 0;
     private static int asked = 0;
+    private static int askedAhead = 0;
+    private static String test = "";
 
     private Check() {
+    }
+
+    /** The test that begins now: its name is told with each answer that is not due. */
+    static void begin(String name) {
+        test = name.isEmpty() ? "" : name + ": ";
+        askedAhead = asked;
+    }
+
+    static int askedInTest() {
+        return asked - askedAhead;
     }
 
     static void due(String what, long got, long want) {
@@ -13,7 +25,7 @@ final class Check {
         if (got != want) {
             wrong++;
             if (wrong <= 50) {
-                System.out.println(what + " answered " + got + ", due is " + want);
+                System.out.println(test + what + " answered " + got + ", due is " + want);
             }
         }
     }
