@@ -242,6 +242,14 @@ public final class EdgesAheadTest {
         due("39", Voice.of(IN_NIGHT_39).often(0, 39), 0);
     }
 
+    static void promise14_often_fewerNightsAskedBehindMore() {
+        Voice v = Voice.of(IN_NIGHT_39);
+        due("60", v.often(0, 60), 1);
+        due("39", v.often(0, 39), 0);
+        due("40", v.often(0, 40), 1);
+        due("0", Voice.of(EVER).often(0, 0), 0);
+    }
+
     // ---- terms III and promise 15: a HUSH
 
     static void promise15_quiet_0And9AreTheEdges() {
@@ -261,6 +269,13 @@ public final class EdgesAheadTest {
     static void promise15_quiet_inOneOfTheNightsIsEnough() {
         due("40", Voice.of(IN_NIGHT_39).quiet(0, 40), 5);
         due("39", Voice.of(IN_NIGHT_39).quiet(0, 39), -1);
+    }
+
+    static void promise15_quiet_fewerNightsAskedBehindMore() {
+        Voice v = Voice.of(IN_NIGHT_39);
+        due("40", v.quiet(0, 40), 5);
+        due("heard behind it", v.often(0, 60), 1);
+        due("39", v.quiet(0, 39), -1);
     }
 
     static void promise15_quiet_beingKeptWhileItGoesOn() {
@@ -403,6 +418,25 @@ public final class EdgesAheadTest {
         due("39", v.seats(39, 0), 0);
     }
 
+    static void promise16_seats_byWhereItIsThen() {
+        Voice v = Voice.of("round 9;ear a row 0 sharp 0;hears far=row;");
+        due("1 together", v.seats(1, -1), 1);
+        due("MILE 1", v.seats(1, 0), 1);
+        // at MILES 1, 2, 3, 4, 5, 6: far 1, 2, 3, 4, 4, 3
+        due("4 together", v.seats(4, -1), 1);
+        due("4", v.seats(4, 0), 1);
+        due("5 together", v.seats(5, -1), 2);
+        due("5", v.seats(5, 0), 4);
+        due("6", v.seats(6, 0), 3);
+    }
+
+    static void promise16_seats_fewerNightsAskedBehindMore() {
+        Voice v = Voice.of("round 9;ear a row 0 sharp 0;hears row=5 and night>2;");
+        due("40", v.seats(40, -1), 37);
+        due("3", v.seats(3, -1), 0);
+        due("3", v.seats(3, 0), 0);
+    }
+
     static void promise16_seats_theRowsStay() {
         Voice v = Voice.of("round 9;ear a row 3 sharp 0;hears row=5;");
         v.answers("row 5", 5, () -> v.seats(1, 0));
@@ -465,6 +499,12 @@ public final class EdgesAheadTest {
     static void promise17_watch_theLastNightCounts() {
         due("40", Voice.of(IN_NIGHT_39).watch(40), 1);
         due("39", Voice.of(IN_NIGHT_39).watch(39), 0);
+    }
+
+    static void promise17_watch_fewerNightsAskedBehindMore() {
+        Voice v = Voice.of(IN_NIGHT_39);
+        due("40", v.watch(40), 1);
+        due("39", v.watch(39), 0);
     }
 
     // ---- terms III and promise 18: to SILENCE

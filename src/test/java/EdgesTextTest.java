@@ -339,6 +339,16 @@ public final class EdgesTextTest {
         due("night", v.has(3), 0);
     }
 
+    static void promise04_house_whileItTalksItTalksWithNobodyThen() {
+        Voice v = Voice.at("round 9;place p at 4 talk 3;", 5, 4, 6, 20, 7, 3);
+        v.tell("round 9;place p at 4 talk 3;");
+        int[] want = {0, 0, 0, 0, 0};
+        for (int i = 0; i < want.length; i++) {
+            due("has " + (i + 3), v.has(i + 3), want[i]);
+        }
+        due("it goes on", v.later(1, 0), 1);
+    }
+
     static void promise04_house_theSeedStays() {
         Voice v = Voice.lived();
         int seed = v.has(12);
@@ -850,6 +860,72 @@ public final class EdgesTextTest {
         test("not not all", true);
     }
 
+    static void term1_test_notOfEachSign() {
+        test("not 1<2", false);
+        test("not 2<2", true);
+        test("not 2>1", false);
+        test("not 2>2", true);
+        test("not 2=2", false);
+        test("not 1=2", true);
+        test("not all", false);
+        test("not [1<2 or 1<2]", false);
+        test("not [1<2 and 2>1]", false);
+    }
+
+    static void term1_test_needsASignAndTwoSums() {
+        fault(1, "round 9;hears 1^;");
+        fault(1, "round 9;hears (1)^;");
+        fault(1, "round 9;hears ^;");
+        fault(1, "round 9;hears ^<1;");
+        fault(1, "round 9;hears 1<^;");
+        fault(1, "round 9;hears 1<2^<3;");
+        fault(1, "round 9;hears 1<^=2;");
+        fault(1, "round 9;hears all^<1;");
+        fault(1, "round 9;hears (^all);");
+        fault(1, "round 9;goes if(1^,2,3);");
+    }
+
+    static void term1_sum_noEmptyOnes() {
+        fault(1, "round 9;goes ^;");
+        fault(1, "round 9;talks ^;");
+        fault(1, "round 9;goes (^);");
+        fault(1, "round 9;goes 1+^;");
+        fault(1, "round 9;goes 1*^;");
+        fault(1, "round 9;goes ^*1;");
+        fault(1, "round 9;goes 1+^+1;");
+        fault(1, "round 9;hears [^];");
+    }
+
+    static void term1_sum_minMaxIfTakeAsManyAsTold() {
+        for (String word : new String[] {"min", "max"}) {
+            fault(1, "round 9;goes " + word + "^;");
+            fault(1, "round 9;goes " + word + " ^1;");
+            fault(1, "round 9;goes " + word + "^[1,2];");
+            fault(1, "round 9;goes " + word + "(^);");
+            fault(1, "round 9;goes " + word + "(1^);");
+            fault(1, "round 9;goes " + word + "(1,^);");
+            fault(1, "round 9;goes " + word + "(1,2^,3);");
+        }
+        fault(1, "round 9;goes if^;");
+        fault(1, "round 9;goes if ^all;");
+        fault(1, "round 9;goes if(all^);");
+        fault(1, "round 9;goes if(all,1^);");
+        fault(1, "round 9;goes if(all,1,^);");
+        fault(1, "round 9;goes if(all,1,2^,3);");
+    }
+
+    static void term1_sum_everyBracketIsClosedByItsOwn() {
+        fault(1, "round 9;goes (1^];");
+        fault(1, "round 9;goes (1^;");
+        fault(1, "round 9;goes 1^);");
+        fault(1, "round 9;goes (1)^);");
+        fault(1, "round 9;goes ^[1];");
+        fault(1, "round 9;hears [all^);");
+        fault(1, "round 9;hears [all^;");
+        fault(1, "round 9;hears all^];");
+        fault(1, "round 9;hears (1^=1);");
+    }
+
     static void term1_part_ofGoesAlone() {
         sum("mile", 7);
         sum("rounds", 0);
@@ -1121,6 +1197,12 @@ public final class EdgesTextTest {
         stands("round 9;goes (((((((1)))))))+(((((((1)))))))*min(1,max(1,1));", 2);
         stands("round 9;goes (((((((1)))))));hears [[[[[[[all]]]]]]];talks (((((((1)))))));", 4);
         stands("round 9;goes " + "(1)+".repeat(30) + "1;", 2);
+        stands("round 9;goes " + "min(1,2)+".repeat(30) + "1;", 2);
+        stands("round 9;goes " + "if(all,1,2)+".repeat(30) + "1;", 2);
+        stands("round 9;hears " + "[all] and ".repeat(30) + "all;", 2);
+        stands("round 9;hears " + "not all or ".repeat(30) + "all;", 2);
+        fault(5, "round 9;goes min(1,2)+(((((((^(1");
+        fault(5, "round 9;hears [all] and not all and [[[[[[[^[all");
     }
 
     static void term1_fault_5FarBeyondTheEighth() {

@@ -111,10 +111,26 @@ public final class RulesTest {
         }
     }
 
+    /** Each promise and each part of the terms has boundary tests of its own, found by their names. */
+    private static void boundaryTests() throws IOException {
+        StringBuilder all = new StringBuilder();
+        for (String name : new String[] {"Text", "Night", "Ahead", "Marks"}) {
+            all.append(new String(Files.readAllBytes(Paths.get("src/test/java/Edges" + name + "Test.java")), "US-ASCII"));
+        }
+        for (int promise = 1; promise <= 34; promise++) {
+            String start = String.format(" static void promise%02d_", promise);
+            Check.due("a boundary test:" + start, all.indexOf(start) >= 0, true);
+        }
+        for (int term = 1; term <= 3; term++) {
+            Check.due("a boundary test of term " + term, all.indexOf(" static void term" + term + "_") >= 0, true);
+        }
+    }
+
     public static void main(String[] args) throws IOException {
         face();
         classes();
         text();
+        boundaryTests();
         Check.finish();
     }
 }
