@@ -586,6 +586,17 @@ public final class EdgesAheadTest {
         due("3 NIGHTS", v.silence(3), -1);
     }
 
+    /** "NONE when all are not enough" is read so: when no choice of PLACES is. Here a silenced PLACE talks longer. */
+    static void promise18_silence_fewerMayBeEnoughWhereAllAreNot() {
+        Voice v = Voice.of("round 9;place p at 1 talk 3;place q at 2 talk 1;goes 9;talks (3-talk)*(talk+1);");
+        due("p talks 0, q talks 4", v.silence(7), 0);
+        due("q silenced talks 3", v.silence(6), 2);
+        due("p silenced talks 3", v.silence(5), -1);
+        Voice w = Voice.of("round 9;place p at 1 talk 9;goes 9;talks 9-talk;");
+        due("p silenced talks 9", w.silence(2), 0);
+        due("not at all", w.silence(1), -1);
+    }
+
     static void promise18_silence_theTalksStay() {
         Voice v = Voice.of(sixPlaces());
         v.answers("all", 63, () -> v.silence(7));

@@ -302,6 +302,45 @@ public final class EdgesMarksTest {
         due("from now on", v.miles(0), 38);
     }
 
+    /** The latest mark() counts, not the one that counted ahead of the ACT. */
+    static void promise21_miles_theLatestMarkCountsBehindUndo() {
+        Voice v = Voice.of(AT_MILE_0);
+        v.rows(0, 0, 1);
+        v.nights(5);
+        v.rows(1, 0, 1, 2, 0, 0);
+        due("undo", v.undo(), true);
+        due("NIGHT", v.has(3), 0);
+        due("MARKED", v.has(MARKED), 2);
+        due("by the latest", v.miles(0), 38);
+        due("one", v.miles(-1), 1);
+    }
+
+    static void promise21_miles_theFirstMarkStaysBehindUndo() {
+        Voice v = Voice.of(AT_MILE_0);
+        v.hush(5);
+        v.chance(3);
+        v.rows(3, 0, 1);
+        due("undo", v.undo(), true);
+        due("undo", v.undo(), true);
+        due("MARKED", v.has(MARKED), 1);
+        due("from now on", v.miles(0), 36);
+        due("one", v.miles(-1), 1);
+    }
+
+    static void promise21_miles_ofTheMomentThatAnImageTells() {
+        Voice v = Voice.of("round 40;ear a row 0 sharp 0;goes 1+rounds;hears far=0;");
+        v.rows(0, 0, 1);
+        due("round 0 times", v.miles(0), 39);
+        due("on", v.image(0, 0, 4, 0, 0, 0), true);
+        due("MARKED", v.has(MARKED), 1);
+        due("round 4 times", v.miles(0), 35);
+        due("on", v.image(999, 0, 4, 0, 0, 0), true);
+        due("MARKED", v.has(MARKED), 1);
+        due("no NIGHT comes", v.miles(-1), 0);
+        due("on", v.image(998, 0, 4, 0, 0, 0), true);
+        due("one comes", v.miles(0), 35);
+    }
+
     // ---- promise 22: tells
 
     static void promise22_tells_othersAreNone() {
